@@ -834,7 +834,7 @@ public final class LaundrySky {
             }
         }
 
-        void readWhole(Tape tape, int depth) {
+        private void readWhole(Tape tape, int depth) {
             readTest(tape, depth);
             for (int i = 0; i < MOST_SIGNS && (tape.word == Word.AND || tape.word == Word.OR); i++) {
                 int step = tape.word == Word.AND ? AND : OR;

@@ -46,6 +46,12 @@ public final class AheadTest {
         DUE.due("later(-1, 0)", sky.later(-1, 0), -2);
         DUE.due("now is left alone", sky.cloth(1, 1), 6);
         DUE.due("now is left alone", sky.count(3), 0);
+        sky.hang(0, 1, 2);
+        DUE.due("the first cloth", sky.later(1, 0), 2);
+        DUE.due("the first cloth too", sky.later(1, 1), 2);
+        sky.take(2);
+        DUE.due("the first cloth outranks a shirt", sky.later(1, 1), 0);
+        DUE.due("until it is dry", sky.later(1, 2), 1);
     }
 
     private static void dry() {
@@ -208,6 +214,79 @@ public final class AheadTest {
         DUE.due("no peg is free", sky.wish(-1), -2);
         sky.want(0, -1);
         DUE.due("nothing there, a sock here", sky.wish(1), 0);
+        wishOfAll();
+        wishByNone();
+    }
+
+    /** Wishes of several cloths, whose rows are told whole. */
+    private static void wishOfAll() {
+        LaundrySky sky = Due.sky("line a pegs 9;line b pegs 9;line c pegs 2;place p under a;place q under b;place r under c;"
+            + "cloth e sock wet 9;cloth f sheet wet 9;cloth g sock wet 9;cloth h sheet wet 9;cloth i skirt wet 9;"
+            + "cloth j sock wet 9;");
+        sky.want(0, 3);
+        sky.want(1, 0);
+        sky.want(2, 2);
+        DUE.due("one each", sky.wish(-1), 3);
+        int[] first = {0, 1, -1, -1, 2, -1};
+        for (int cloth = 0; cloth < 6; cloth++) {
+            DUE.due("the row's cloth " + cloth, sky.wish(cloth), first[cloth]);
+        }
+        LaundrySky six = Due.sky("line a pegs 1;line b pegs 1;line c pegs 2;line d pegs 1;line e pegs 1;"
+            + "place p under a b c d e;place q under e;place r under d;place s under c;"
+            + "cloth f shirt wet 9;cloth g skirt wet 9;cloth h shirt wet 9;cloth i shirt wet 9;cloth j skirt wet 9;"
+            + "cloth k shirt wet 9;");
+        six.want(0, 1);
+        six.want(1, 2);
+        six.want(2, 2);
+        six.want(3, 1);
+        DUE.due("two skirts, and three shirts to outdo them", six.wish(-1), 5);
+        int[] row = {0, 3, 1, 2, 4, -1};
+        for (int cloth = 0; cloth < 6; cloth++) {
+            DUE.due("the row's cloth " + cloth, six.wish(cloth), row[cloth]);
+        }
+        LaundrySky all = Due.sky("line a pegs 4;line b pegs 1;line c pegs 1;place p under a b c;place q under b;"
+            + "place r under c;cloth f shirt wet 9;cloth g skirt wet 9;cloth h shirt wet 9;cloth i shirt wet 9;"
+            + "cloth j shirt wet 9;cloth k skirt wet 9;");
+        all.want(0, 1);
+        all.want(1, 2);
+        all.want(2, 2);
+        DUE.due("two skirts, three shirts", all.wish(-1), 5);
+        all.hang(1, 0, 1);
+        all.want(2, 1);
+        DUE.due("a skirt hangs: a skirt and three shirts more", all.wish(-1), 4);
+        LaundrySky whole = Due.sky("line a pegs 3;line b pegs 1;line c pegs 1;line d pegs 1;place p under a b c;"
+            + "place q under b;place r under c;place s under d;cloth f shirt wet 9;cloth g skirt wet 9;"
+            + "cloth h shirt wet 9;cloth i shirt wet 9;cloth j sheet wet 9;cloth k skirt wet 9;");
+        whole.want(0, 1);
+        whole.want(1, 2);
+        whole.want(2, 2);
+        whole.want(3, 0);
+        DUE.due("all six", whole.wish(-1), 6);
+        int[] everyone = {0, 1, 0, 0, 3, 2};
+        for (int cloth = 0; cloth < 6; cloth++) {
+            DUE.due("the row's cloth " + cloth, whole.wish(cloth), everyone[cloth]);
+        }
+    }
+
+    private static void wishByNone() {
+        LaundrySky sky = Due.sky("line a pegs 9;line b pegs 1;place p under a;place q under b;cloth c sock wet 9;"
+            + "cloth d sheet wet 1;");
+        sky.want(0, 3);
+        sky.want(1, 3);
+        DUE.due("one sock for two", sky.wish(-1), -2);
+        sky.want(1, 0);
+        DUE.due("a sock and a sheet", sky.wish(-1), 2);
+        sky.hang(1, 0, 3);
+        sky.hour();
+        sky.take(1);
+        DUE.due("the sheet is dry", sky.wish(-1), -2);
+        sky.want(1, -1);
+        DUE.due("so it be", sky.wish(-1), 1);
+        sky.wash(1);
+        sky.hang(1, 1, 1);
+        DUE.due("what hangs is in the way", sky.wish(-1), -2);
+        sky.hour();
+        DUE.due("until it is dry", sky.wish(-1), 1);
     }
 
     private static void lift() {
@@ -268,6 +347,11 @@ public final class AheadTest {
         DUE.due("none", sky.pairs(0), 0);
         DUE.due("none", sky.pairs(1) + sky.pairs(2), 0);
         DUE.due("nothing was hung", sky.count(4), 1);
+        LaundrySky loose = Due.sky("line a pegs 9;place p under a;cloth c sock wet 2;dries loose;");
+        loose.tell(0, 1, -1);
+        DUE.due("by one peg", loose.pairs(0), 1);
+        loose.tell(0, 0, -1);
+        DUE.due("an elder one behind a later one", loose.pairs(0), 0);
         LaundrySky late = Due.sky("line a pegs 1;place p under a;cloth c sock wet 1;cloth d sock wet 1;dries clock = 11;");
         late.tell(0, 12, -1);
         DUE.due("dry by the twelfth", late.pairs(0), 2);
@@ -294,6 +378,11 @@ public final class AheadTest {
         DUE.due("alike now", time.look(0), -1);
         DUE.due("alike behind 11", time.look(11), -1);
         DUE.due("parted behind 12", time.look(12), 0);
+        DUE.due("others, though it would part", time.look(13), -1);
+        DUE.due("others", time.look(-1), -1);
+        time.hour();
+        DUE.due("from now on", time.look(11), 0);
+        time.undo();
         DUE.due("nothing was hung", time.count(4) + time.count(3), 0);
         DUE.due("no place", Due.sky("line a pegs 1;cloth c sock wet 1;cloth d sock wet 1;").look(0), -1);
     }
@@ -319,6 +408,8 @@ public final class AheadTest {
         DUE.due("all is as ahead", sky.count(4), 0);
         DUE.due("all is as ahead", sky.count(3), 1);
         DUE.due("all is as ahead", sky.count(10), 1);
+        // seed 0: g / 65536 is 0, 21468, 9988: cloth 0, line 0, pegs 2
+        DUE.due("seed 0", sky.mays(0, 1, 2), 1);
         DUE.due("the greatest seed and hours", sky.mays(9999, 99, 0) >= 0, true);
         LaundrySky lines = Due.sky("line a pegs 1;place p under a;");
         DUE.due("no cloths", lines.mays(5, 99, 0), 99);
@@ -340,5 +431,23 @@ public final class AheadTest {
         sky.hang(0, 0, 1);
         sky.hour();
         DUE.due("from now on: taken down first", sky.mays(7, 1, 2), 0);
+        sky.take(0);
+        DUE.due("dry as it lies, it is washed", sky.mays(7, 2, 2), 0);
+        LaundrySky wet = Due.sky("line a pegs 3;place p under a;cloth c skirt wet 20;dries 1;");
+        wet.hang(0, 0, 1);
+        for (int i = 0; i < 20; i++) {
+            wet.hour();
+        }
+        wet.take(0);
+        DUE.due("washed, it thunders", wet.mays(7, 1, 0), 0);
+        DUE.due("but not now", wet.cloth(0, 1), 0);
+        LaundrySky few = Due.sky("line a pegs 1;place p under a;cloth c skirt wet 20;");
+        int hung = 0;
+        for (int seed = 0; seed < 60; seed++) {
+            int one = few.mays(seed, 1, 1);
+            DUE.due("as often as it hangs", few.mays(seed, 1, 2), one);
+            hung += one;
+        }
+        DUE.due("by one peg it can, by more it can't", hung > 5 && hung < 40, true);
     }
 }

@@ -70,6 +70,10 @@ public final class AsksTest {
         LaundrySky even = Due.sky("line a pegs 1;line b pegs 1;place p under b;place q under a;cloth c sock wet 9;");
         DUE.due("of equal ones the first", even.best(0), 0);
         DUE.due("nothing was hung", even.count(4), 0);
+        LaundrySky full = Due.sky("line a pegs 1;line b pegs 1;place p under a;place q under a;place r under b;"
+            + "cloth c sock wet 9;cloth d skirt wet 9;");
+        full.hang(0, 0, 1);
+        DUE.due("where a peg is free", full.best(1), 1);
         LaundrySky none = Due.sky("line a pegs 1;line b pegs 1;place p under b;cloth c sock wet 9;");
         DUE.due("the line that is above a place", none.best(0), 1);
     }
@@ -89,6 +93,13 @@ public final class AsksTest {
         DUE.due("below both lines", sky.owes(1), 2);
         DUE.due("elsewhere", sky.owes(2), -1);
         DUE.due("nothing was taken", sky.count(4), 20);
+        sky.hang(0, 2, 1);
+        DUE.due("the first cloth", sky.owes(2), 0);
+        sky.hang(5, 2, 1);
+        DUE.due("neither sheet", sky.owes(2), -1);
+        sky.hour();
+        sky.hour();
+        DUE.due("dry ones are owed nothing", sky.owes(2), 5);
     }
 
     private static void sameAndStorm() {

@@ -135,6 +135,8 @@ public final class HandsTest {
         DUE.due("pegs are free again", sky.line(0, 1), 4);
         DUE.due("it stays as wet", sky.cloth(0, 1), 3);
         DUE.due("not twice", sky.take(0), -1);
+        DUE.due("no line", sky.cloth(0, 2), -1);
+        DUE.due("no pegs", sky.cloth(0, 3), 0);
         sky.hour();
         DUE.due("what lies does not dry", sky.cloth(0, 1), 3);
     }
@@ -299,11 +301,36 @@ public final class HandsTest {
         DUE.due("what was wanted then is wanted", sky.wish(-1), 1);
         DUE.due("of the skirt", sky.wish(2), 0);
         DUE.due("others are not laid", sky.mark(2, true), false);
+        markedTellings();
         sky.take(0);
         sky.mark(3, false);
         sky.hang(1, 0, 1);
         DUE.due("laid anew", sky.mark(3, true), true);
         DUE.due("nothing hangs", sky.count(4), 0);
+    }
+
+    private static void markedTellings() {
+        LaundrySky sky = Due.sky(STREET);
+        for (int i = 0; i < 4; i++) {
+            DUE.due("laid", sky.mark(i, false), true);
+        }
+        sky.tell(1, 0, 1);
+        sky.tell(0, 6, -1);
+        int told = sky.pairs(0);
+        sky.mark(0, false);
+        sky.mark(1, true);
+        DUE.due("nothing is told", sky.count(9), 0);
+        sky.tell(2, 3, 3);
+        sky.tell(2, 3, 2);
+        DUE.due("another thing is told", sky.pairs(0), 0);
+        sky.mark(0, true);
+        DUE.due("what was told is told again", sky.pairs(0), told);
+        DUE.due("by the shirts that were meant", sky.pairs(1), 2 + 16);
+        DUE.due("on the lines that were meant", sky.pairs(2), 3);
+        DUE.due("an empty street", sky.street(), 0);
+        for (int i = 0; i < 4; i++) {
+            DUE.due("no mark is there", sky.mark(i, true), false);
+        }
     }
 
     private static void judging() {
@@ -325,6 +352,9 @@ public final class HandsTest {
         sky.hour();
         sky.take(0);
         judge(sky, "hang sa a 3;hour;hour;hour;", -1, -1, 0);
+        judge(sky, "hang sa a 1;hour;hour;take sa;wash sa;hang sa a 3;hour;hour;hour;", -1, -1, 0);
+        judge(sky, "hang sa a 1;hour;hour;take sa;hang sa a 3;", -1, -1, 1);
+        judge(sky, "hang sa a 2;hang ba a 2;hang bb a 1;take sa;hang bb a 2;", 2, -1, 0);
         DUE.due("what is now is left alone", sky.cloth(0, 1), 1);
     }
 

@@ -65,6 +65,7 @@ public final class ReadingTest {
         DUE.street("line\na\npegs\n0001;line b pegs1;line c pegs 9;", 0, 0);
         DUE.street("line abcdefgh pegs 1;", 0, 0);
         DUE.street("line abcdefghi pegs 1;", 1, 5);
+        DUE.street("line zz pegs 1;line az pegs 9;line za pegs 1;place z under zz az za;", 0, 0);
         DUE.street("line a pegs 00001;", 1, 12);
         DUE.street("line a pegs 1place b under a;", 1, 13);
         DUE.street("line a pegs 1;dries 1and 2or 3;", 0, 0);
@@ -266,12 +267,20 @@ public final class ReadingTest {
             DUE.due("count(" + what + ") of the new street", sky.count(what), due[what]);
         }
         DUE.due("as wet as told", sky.cloth(0, 1), 3);
+        DUE.due("on no line", sky.cloth(0, 2), -1);
+        DUE.due("by no pegs", sky.cloth(0, 3), 0);
         DUE.due("no crossing is left", sky.line(0, 3), 0);
         DUE.due("nothing can be undone", sky.undo(), false);
         DUE.due("no mark", sky.mark(2, true), false);
         sky.hang(0, 0, 3);
         sky.hang(0, 1, 2);
         DUE.due("the law is the one without dries", sky.dry(0), 2);
+        Due.type(sky, "dries 5;cloth c sock wet 9;line a pegs 1;");
+        DUE.due("dries once in each street", sky.street(), 0);
+        Due.type(sky, "dries 4;cloth c sock wet 9;line a pegs 1;");
+        DUE.due("dries once in each street", sky.street(), 0);
+        sky.hang(0, 0, 1);
+        DUE.due("by the later law", sky.dry(0), 3);
         DUE.due("an empty street takes all away", sky.street(), 0);
         DUE.due("lines", sky.count(0) + sky.count(1) + sky.count(2), 0);
     }
