@@ -1557,6 +1557,8 @@ public final class LaundrySky {
         /** The LINE of each cloth that the search hangs; NONE: it does not. */
         final int[] chosen = new int[MOST_CLOTHS];
         private final Sky trial;
+        /** By KIND the LINES above a PLACE where it is WANTED, as bits: elsewhere it is in the way at best. */
+        private final int[] usefulLines = new int[KINDS];
 
         Wishes(Sky trial) {
             this.trial = trial;
@@ -1582,6 +1584,7 @@ public final class LaundrySky {
 
         int fewest(Sky now) {
             trial.copyFrom(now);
+            findUsefulLines();
             for (int cloths = 0; cloths <= MOST_CLOTHS; cloths++) {
                 if (search(0, cloths)) {
                     return cloths;
@@ -1590,9 +1593,20 @@ public final class LaundrySky {
             return NONE;
         }
 
+        private void findUsefulLines() {
+            for (int kind = 0; kind < KINDS; kind++) {
+                usefulLines[kind] = 0;
+            }
+            for (int place = 0; place < trial.town.places; place++) {
+                if (wanted[place] >= 0) {
+                    usefulLines[wanted[place]] |= trial.town.above[place];
+                }
+            }
+        }
+
         /**
          * Hangs just so many cloths more, of those from one on. The first find is the first row, since
-         * LINES are tried in their order and not to hang comes last. A dry cloth is never of use.
+         * LINES are tried in their order and not to hang comes last.
          */
         private boolean search(int cloth, int more) {
             if (!canStillBe(cloth, more)) {
@@ -1605,9 +1619,9 @@ public final class LaundrySky {
             if (cloth >= trial.town.cloths) {
                 return false;
             }
-            boolean useful = trial.lies(cloth) && trial.wet[cloth] > 0;
-            for (int line = 0; useful && line < trial.town.lines; line++) {
-                if (trial.freeOn(line) > 0) {
+            int useful = usefulLines[trial.town.kinds[cloth]];
+            for (int line = firstLine(cloth); line < trial.town.lines; line++) {
+                if ((useful >> line & 1) == 1 && trial.freeOn(line) > 0) {
                     chosen[cloth] = line;
                     trial.putUp(cloth, line, 1);
                     boolean found = search(cloth + 1, more - 1);
@@ -1621,13 +1635,34 @@ public final class LaundrySky {
             return search(cloth + 1, more);
         }
 
+        /**
+         * The first LINE to try. Of two cloths of a KIND the first row has the one that comes first on no later
+         * LINE, so no other row need be tried. Beyond all LINES: the cloth can't be of use.
+         */
+        private int firstLine(int cloth) {
+            if (!trial.lies(cloth) || trial.wet[cloth] == 0) {
+                return MOST_LINES;
+            }
+            for (int i = cloth - 1; i >= 0; i--) {
+                if (trial.town.kinds[i] == trial.town.kinds[cloth] && trial.wet[i] > 0) {
+                    if (chosen[i] != NONE) {
+                        return chosen[i];
+                    }
+                    if (trial.lies(i)) {
+                        return MOST_LINES;
+                    }
+                }
+            }
+            return 0;
+        }
+
         private void forgetFrom(int cloth) {
             for (int i = cloth; i < MOST_CLOTHS; i++) {
                 chosen[i] = NONE;
             }
         }
 
-        /** Whether each PLACE could get what is WANTED if it alone got the cloths that are left; sure if none is hung. */
+        /** Whether each PLACE could get what is WANTED if it alone got the cloths that are left; exact for none more. */
         private boolean canStillBe(int cloth, int more) {
             for (int place = 0; place < trial.town.places; place++) {
                 int weather = wanted[place];

@@ -46,8 +46,36 @@ public final class RandomRunsTest {
         }
         type(sky, plain, streetText());
         due.due("street()", sky.street(), plain.street());
+        if (run % 10 == 1) {
+            wishes(sky, plain);
+            return;
+        }
         for (int i = 0; i < 120; i++) {
             step(sky, plain);
+        }
+    }
+
+    /** What some hanging brings is wanted, so that wishes of several cloths can be. */
+    private void wishes(LaundrySky sky, PlainSky plain) {
+        for (int i = random.nextInt(3); i > 0; i--) {
+            hang(sky, plain);
+        }
+        due.due("mark", sky.mark(0, false), plain.mark(0, false));
+        for (int i = random.nextInt(8); i >= 0; i--) {
+            hang(sky, plain);
+        }
+        int[] weathers = new int[4];
+        for (int place = 0; place < 4; place++) {
+            weathers[place] = plain.place(place, 0);
+        }
+        due.due("mark", sky.mark(0, true), plain.mark(0, true));
+        for (int place = 0; place < 4; place++) {
+            if (random.nextInt(5) > 0) {
+                due.due("want", sky.want(place, weathers[place]), plain.want(place, weathers[place]));
+            }
+        }
+        for (int cloth = -1; cloth < 6; cloth++) {
+            due.due("wish", sky.wish(cloth), plain.wish(cloth));
         }
     }
 
