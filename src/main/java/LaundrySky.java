@@ -1662,7 +1662,7 @@ public final class LaundrySky {
             }
         }
 
-        /** Whether each PLACE could get what is WANTED if it alone got the cloths that are left; exact for none more. */
+        /** Whether each PLACE could get what is WANTED if it alone got the cloths that are left; exact for no more. */
         private boolean canStillBe(int cloth, int more) {
             for (int place = 0; place < trial.town.places; place++) {
                 int weather = wanted[place];

@@ -200,6 +200,9 @@ public final class HandsTest {
         law("not (1 and 0) * 4", 20, 16);
         law("9", 20, 11);
         law("10", 20, 11);
+        String deep = "0 or 0 < 0 + 1 * ";
+        law((deep + "(").repeat(4) + deep + "1" + ")".repeat(4), 20, 19);
+        law((deep + "(").repeat(4) + deep + "0" + ")".repeat(4), 20, 20);
         together();
     }
 

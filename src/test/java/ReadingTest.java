@@ -48,6 +48,42 @@ public final class ReadingTest {
         DUE.due("the third sign, 126, is none", sky.street(), 1 + 16 * 2);
         DUE.due("the tape is taken", sky.count(11), 0);
         order();
+        fullTapes();
+        shorterTapes();
+    }
+
+    /** A token, or a blank, that ends with the tape's last sign. */
+    private static void fullTapes() {
+        String law = "dries 1" + "+1".repeat(496);
+        DUE.due("the test's own length", law.length(), 999);
+        DUE.street(law + "1", 1, 1000);
+        DUE.street(law + ";", 0, 0);
+        DUE.street(law + "a", 1, 999);
+        DUE.street(law + " ", 1, 1000);
+        DUE.street(law + "+", 1, 1000);
+        DUE.street(law.substring(1) + ";;", 1, 0);
+        DUE.street(law + "+;", 1, 1000);
+    }
+
+    /** What an earlier, longer text left is not read again. */
+    private static void shorterTapes() {
+        LaundrySky sky = new LaundrySky();
+        for (String text : new String[] {"dries 1", "dries sun", "dries ", "dries 1 ", "dries 1 +"}) {
+            Due.type(sky, "dries 123;cloth abc sock wet 20;");
+            DUE.due("a street", sky.street(), 0);
+            Due.type(sky, "dries sunny sunny sunny");
+            DUE.due("no street", sky.street(), 1 + 16 * 6);
+            Due.type(sky, text);
+            DUE.due("the end of " + text, sky.street(), 1 + 16 * text.length());
+            Due.type(sky, "dries 1                                ");
+            DUE.due("blanks", sky.street(), 1 + 16 * 39);
+            Due.type(sky, text);
+            DUE.due("the end of " + text, sky.street(), 1 + 16 * text.length());
+        }
+        Due.type(sky, "dries 1111");
+        sky.street();
+        Due.type(sky, "dries 1");
+        DUE.due("the end", sky.street(), 1 + 16 * 7);
     }
 
     private static void order() {
