@@ -603,33 +603,29 @@ public final class LaundrySky {
         static final int KIND = 1;
         /** Facts are no NAME's rivals: a line may be called sun. */
         static final int FACT = 2;
+        /** All of them, kept once: values() makes a copy each time. */
         private static final Word[] ALL = values();
 
-        final long letters;
+        final String text;
         final int group;
         final int value;
 
         Word(String text, int group, int value) {
-            this.letters = pack(text);
+            this.text = text;
             this.group = group;
             this.value = value;
         }
 
-        private static long pack(String text) {
-            long packed = 0;
-            for (int i = 0; i < text.length(); i++) {
-                packed = Tape.withLetter(packed, text.charAt(i));
+        boolean standsAt(char[] signs, int start, int end) {
+            if (start < 0 || end > signs.length || end - start != text.length()) {
+                return false;
             }
-            return packed;
-        }
-
-        static Word of(long letters) {
-            for (int i = 0; i < ALL.length; i++) {
-                if (ALL[i].letters == letters) {
-                    return ALL[i];
+            for (int i = 0; i < text.length(); i++) {
+                if (signs[start + i] != text.charAt(i)) {
+                    return false;
                 }
             }
-            return null;
+            return true;
         }
     }
 
@@ -652,11 +648,6 @@ public final class LaundrySky {
         int fault;
         private int start;
         private int next;
-
-        /** Letters as digits to the base 32, none of which is 0: no two WORDS are packed alike. */
-        static long withLetter(long packed, char letter) {
-            return packed * 32 + (letter - 'a' + 1);
-        }
 
         void addBytes(long bytes) {
             for (int shift = 56; shift >= 0; shift -= 8) {
@@ -704,7 +695,8 @@ public final class LaundrySky {
 
         private void readWord() {
             while (next < length && isLetter(signs[next])) {
-                letters = withLetter(letters, signs[next]);
+                // digits to the base 32, none of which is 0: no two WORDS are packed alike
+                letters = letters * 32 + (signs[next] - 'a' + 1);
                 next++;
             }
             if (next - start > MOST_LETTERS) {
@@ -712,7 +704,9 @@ public final class LaundrySky {
                 return;
             }
             kind = WORD;
-            word = Word.of(letters);
+            for (int i = 0; word == null && i < Word.ALL.length; i++) {
+                word = Word.ALL[i].standsAt(signs, start, next) ? Word.ALL[i] : null;
+            }
         }
 
         private void readDigits() {
