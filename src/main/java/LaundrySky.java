@@ -1773,13 +1773,15 @@ public final class LaundrySky {
                 end = Math.max(end, hours[i]);
             }
             for (int hour = 0; hour <= end; hour++) {
+                if (hour > 0) {
+                    trial.passHour(true);
+                }
                 if (!agrees(hour)) {
                     return false;
                 }
                 for (int place = 0; hour == asked && place < trial.town.places; place++) {
                     seen[place] = trial.weather(place, 0);
                 }
-                trial.passHour(true);
             }
             return true;
         }

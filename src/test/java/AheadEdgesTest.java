@@ -123,6 +123,13 @@ public final class AheadEdgesTest {
         EDGES.due("all hang elsewhere", sky.wish(-1), -2);
         sky.want(0, -1);
         EDGES.due("it is so already", sky.wish(-1), 0);
+        LaundrySky dry = Due.sky("line a pegs 9;place p under a;cloth c sock wet 1;cloth d sock wet 9;");
+        dry.hang(0, 0, 1);
+        dry.hour();
+        dry.take(0);
+        dry.want(0, 3);
+        EDGES.due("a dry one brings no weather", dry.wish(0), -1);
+        EDGES.due("one that is wet does", dry.wish(1), 0);
     }
 
     private static void wishByOnePeg() {
@@ -161,6 +168,18 @@ public final class AheadEdgesTest {
         EDGES.due("by none, of a cloth", sky.wish(0), -2);
         sky.want(3, -1);
         EDGES.due("none wanted is none hung", sky.wish(-1), 3);
+        LaundrySky six = Due.sky("line a pegs 3;line b pegs 1;line c pegs 1;line d pegs 1;line e pegs 9;place p under a b c;"
+            + "place q under b;place r under c;place s under d;cloth m shirt wet 9;cloth n skirt wet 9;cloth o shirt wet 9;"
+            + "cloth t shirt wet 9;cloth u sheet wet 9;cloth v skirt wet 9;");
+        int[] wanted = {1, 2, 2, 0};
+        for (int place = 0; place < 4; place++) {
+            six.want(place, wanted[place]);
+        }
+        EDGES.due("all six", six.wish(-1), 6);
+        int[] row = {0, 1, 0, 0, 3, 2};
+        for (int cloth = 0; cloth < 6; cloth++) {
+            EDGES.due("the line of cloth " + cloth, six.wish(cloth), row[cloth]);
+        }
     }
 
     private static void wishRows() {
@@ -216,6 +235,23 @@ public final class AheadEdgesTest {
         even.take(1);
         EDGES.due("two shirts are more", even.lift(0, 1), 0);
         EDGES.due("a shirt, the least", even.lift(0, 0), 1);
+        LaundrySky full = fullStreet();
+        hangAll(full, 0, 1);
+        EDGES.due("all six", full.lift(0, -1), 63);
+        EDGES.due("none", full.lift(3, -1), 0);
+    }
+
+    /** As many lines, places and cloths as can be; place i is below line i, a sock and a shirt come last. */
+    private static LaundrySky fullStreet() {
+        return Due.sky("line a pegs 9;line b pegs 9;line c pegs 9;line d pegs 9;line e pegs 9;place p under a;place q under b;"
+            + "place r under c;place s under d e;cloth u skirt wet 9;cloth v sheet wet 9;cloth w sheet wet 9;"
+            + "cloth x sheet wet 9;cloth y sock wet 9;cloth z shirt wet 9;crosses d e;");
+    }
+
+    private static void hangAll(LaundrySky sky, int line, int pegs) {
+        for (int cloth = 0; cloth < 6; cloth++) {
+            sky.hang(cloth, line, pegs);
+        }
     }
 
     private static void told() {
@@ -232,6 +268,11 @@ public final class AheadEdgesTest {
         EDGES.due("dry by then", sky.pairs(1), 2);
         EDGES.due("12, another thing", sky.tell(0, 12, 2), true);
         EDGES.due("by no pair", sky.pairs(0), 0);
+        LaundrySky first = dryBehind(12);
+        first.tell(0, 12, 2);
+        EDGES.due("the latest hour, told first", first.pairs(0), 0);
+        first.tell(0, 0, 2);
+        EDGES.due("and then another", first.pairs(0), 0);
     }
 
     private static void toldUnknown() {
@@ -253,6 +294,11 @@ public final class AheadEdgesTest {
         EDGES.due("by one peg it is as loose as can be", peg.pairs(0), 1);
         peg.hour();
         EDGES.due("now is when it is asked", peg.pairs(0), 1);
+        LaundrySky looser = Due.sky("line a pegs 3;place p under a;cloth m sock wet 3;dries loose;");
+        looser.tell(0, 1, 3);
+        EDGES.due("and no looser", looser.pairs(0), 1);
+        looser.tell(0, 2, -1);
+        EDGES.due("and no less loose", looser.pairs(0), 1);
     }
 
     private static void toldSix() {
@@ -320,6 +366,8 @@ public final class AheadEdgesTest {
         // p: 4 of 6 have none; r: 2 each
         EDGES.due("the least of the greatest", more.look(0), 2);
         EDGES.due("no place", Due.sky("line a pegs 9;cloth m sock wet 9;cloth n skirt wet 9;").look(0), -1);
+        // s: of 30 pairs 18 have none, 24 elsewhere
+        EDGES.due("the last place of a full street", fullStreet().look(0), 3);
     }
 
     private static LaundrySky crossed() {
@@ -357,6 +405,10 @@ public final class AheadEdgesTest {
         turned.hang(2, 0, 1);
         turned.hang(3, 1, 1);
         crossing(turned, "both ways at once are one pair", 1, 0);
+        LaundrySky full = fullStreet();
+        full.hang(5, 4, 1);
+        full.hang(0, 3, 1);
+        crossing(full, "the last cloth on the last line", 1, 0);
     }
 
     private static void quarrels() {
@@ -416,6 +468,11 @@ public final class AheadEdgesTest {
         sky.hang(0, 0, 1);
         EDGES.due("thunder changes for none", sky.best(1), -1);
         EDGES.due("no place", Due.sky("line a pegs 9;cloth m sock wet 9;").best(0), -1);
+        LaundrySky full = fullStreet();
+        for (int cloth = 0; cloth < 3; cloth++) {
+            full.hang(cloth, cloth, 1);
+        }
+        EDGES.due("the last place of four, the first line above it", full.best(5), 3);
     }
 
     private static void owes() {
@@ -439,6 +496,9 @@ public final class AheadEdgesTest {
         sky.take(3);
         sky.hour();
         EDGES.due("a dry one makes none", sky.owes(0), -1);
+        LaundrySky full = fullStreet();
+        full.hang(5, 4, 1);
+        EDGES.due("the last cloth, the last place", full.owes(3), 5);
     }
 
     private static void chance() {
@@ -464,6 +524,10 @@ public final class AheadEdgesTest {
         sun.hang(1, 0, 1);
         EDGES.due("in one hour both", sun.chance(0, 1, 4), 400000);
         EDGES.due("in two", sun.chance(0, 2, 4), 640000);
+        LaundrySky clock = Due.sky("line a pegs 9;cloth m sock wet 1;dries clock = 5;");
+        clock.hang(0, 0, 1);
+        EDGES.due("it is the next hour, too, if nothing dries", clock.chance(0, 6, 7), 700000);
+        EDGES.due("and no hour ahead of it dries", clock.chance(0, 5, 10), 0);
     }
 
     private static void chanceCut() {
@@ -509,6 +573,11 @@ public final class AheadEdgesTest {
         sky.hang(2, 0, 2);
         EDGES.due("of equal ones the first", sky.storm(), 0);
         EDGES.due("no place", Due.sky("line a pegs 9;").storm(), -1);
+        LaundrySky full = fullStreet();
+        full.hang(0, 2, 2);
+        EDGES.due("the wind of the first cloth", full.storm(), 2);
+        full.hang(5, 4, 1);
+        EDGES.due("of the last cloth in the last place", full.storm(), 3);
     }
 
     private static void last() {
@@ -530,6 +599,15 @@ public final class AheadEdgesTest {
         EDGES.due("all have a dry of 0 or none", sky.last(), 0);
         sky.hang(4, 0, 1);
         EDGES.due("one is wet", sky.last(), 4);
+        LaundrySky full = fullStreet();
+        hangAll(full, 0, 1);
+        full.take(0);
+        full.hang(0, 1, 3);
+        EDGES.due("the first cloth", full.last(), 0);
+        full.take(5);
+        full.hang(5, 2, 3);
+        full.take(0);
+        EDGES.due("the last cloth", full.last(), 5);
         EDGES.due("40", dryBehind(40).last(), 0);
         EDGES.due("41", dryBehind(41).last(), -1);
     }
@@ -670,6 +748,16 @@ public final class AheadEdgesTest {
         EDGES.due("hung every other hour", dry.mays(2, 99, 1), 50);
         EDGES.due("at last", dry.mays(2, 99, 2), 1);
         EDGES.due("taken down at last", dry.mays(2, 98, 2), 0);
+        LaundrySky full = Due.sky("line a pegs 9;line b pegs 9;place p under a;place q under a;place r under a;place s under b;"
+            + "cloth m skirt wet 20;dries 0;");
+        EDGES.due("hung on b: thunder in the last", full.mays(2, 5, 0), 0);
+        full.hang(0, 1, 1);
+        EDGES.due("it hangs there: thunder in the last", full.mays(1, 5, 0), 0);
+        full.take(0);
+        EDGES.due("in the first three", full.mays(1, 5, 0), 0);
+        LaundrySky calm = Due.sky("line a pegs 9;place p under a;place q under a;place r under a;place s under a;"
+            + "cloth m sock wet 20;");
+        EDGES.due("in none of four", calm.mays(1, 9, 0), 9);
     }
 
     private static void marks() {
@@ -703,7 +791,14 @@ public final class AheadEdgesTest {
         sky.undo();
         sky.undo();
         EDGES.due("all is undone", sky.count(10), 0);
+        sky.want(0, 3);
+        sky.tell(0, 2, 2);
         sky.mark(1, true);
+        EDGES.due("a place", sky.count(7), 1);
+        EDGES.due("what was wanted of it", sky.wish(-1) * 10 + sky.wish(1), 10);
+        EDGES.due("what was told", sky.count(9), 1);
+        EDGES.due("by the skirt, not above p", sky.pairs(0), 1);
+        EDGES.due("on b", sky.pairs(2), 2);
         String marked = Edges.all(sky);
         EDGES.due("it hangs by two", sky.cloth(0, 3), 2);
         EDGES.due("as wet", sky.cloth(0, 1), 7);
@@ -720,5 +815,33 @@ public final class AheadEdgesTest {
         EDGES.stays("as it was", sky, marked);
         EDGES.due("nothing can be undone", sky.undo(), false);
         EDGES.stays("as it was", sky, marked);
+        tellingsHeld();
+    }
+
+    /** Two marks with other things TOLD: each has its own place, hours and weather. */
+    private static void tellingsHeld() {
+        LaundrySky sky = Due.sky("line a pegs 9;line b pegs 9;place p under a;place q under b;cloth m sock wet 1;"
+            + "cloth n skirt wet 9;cloth o sock wet 9;dries 1;");
+        sky.tell(1, 1, 3);
+        sky.mark(0, false);
+        sky.mark(3, false);
+        sky.want(0, 2);
+        sky.tell(0, 0, 2);
+        sky.mark(1, false);
+        EDGES.due("both", sky.pairs(0), 0);
+        sky.mark(0, true);
+        EDGES.due("the sock that is wet behind an hour", sky.pairs(1), 4);
+        EDGES.due("on b", sky.pairs(2), 2);
+        sky.tell(1, 0, -1);
+        EDGES.due("told too", sky.pairs(0), 0);
+        sky.mark(3, true);
+        sky.tell(0, 0, -1);
+        EDGES.due("nothing else was told then", sky.pairs(1), 4);
+        sky.mark(1, true);
+        EDGES.due("two things were", sky.count(9), 2);
+        EDGES.due("which can't be both", sky.pairs(0), 0);
+        EDGES.due("and one was wanted", sky.wish(1), 0);
+        sky.mark(0, true);
+        EDGES.due("nothing was", sky.count(7), 0);
     }
 }

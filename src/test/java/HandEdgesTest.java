@@ -88,6 +88,8 @@ public final class HandEdgesTest {
         sky.hour();
         EDGES.due("it hangs", sky.take(0), 5);
         EDGES.due("all is free", sky.line(0, 1), 3);
+        EDGES.due("it has no pegs", sky.cloth(0, 3), 0);
+        EDGES.due("nor a line", sky.cloth(0, 2), -1);
         EDGES.due("it does not hang again", sky.take(0), -1);
     }
 
@@ -283,6 +285,12 @@ public final class HandEdgesTest {
         EDGES.due("dry ones too", sky.place(1, 2), 5);
         sky.take(2);
         EDGES.due("taken down", sky.place(1, 2), 3);
+        LaundrySky six = Due.sky("line a pegs 9;place p under a;cloth c sock wet 1;cloth d sock wet 1;cloth e sock wet 1;"
+            + "cloth f sock wet 1;cloth g sock wet 1;cloth h sock wet 1;");
+        for (int cloth = 0; cloth < 6; cloth++) {
+            six.hang(cloth, 0, 1);
+            EDGES.due("two more by each of six", six.place(0, 2), 2 * cloth + 2);
+        }
     }
 
     private static final String STREET = "line a pegs 3;line b pegs 1;place p under a;cloth c skirt wet 2;"
@@ -346,6 +354,10 @@ public final class HandEdgesTest {
             + "cloth e sock wet 1;dries 1;");
         judge(two, "hang d a 1;hang e a 1;hang c a 1;hour;", -1, 3, 2);
         judge(two, "hang d a 1;hang e a 1;hang c a 1;take d;take e;", -1, 3, 0);
+        LaundrySky four = Due.sky("line a pegs 9;line b pegs 9;place p under a;place q under a;place r under a;"
+            + "place s under b;cloth c skirt wet 9;cloth d sock wet 9;");
+        judge(four, "hang d a 1;hour;hang c b 1;", -1, 2, 0);
+        judge(four, "hang d b 1;hour;", -1, -1, 0);
     }
 
     private static void judgedDry() {

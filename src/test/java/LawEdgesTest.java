@@ -233,6 +233,16 @@ public final class LawEdgesTest {
         elder.street();
         elder.hour();
         EDGES.due("one with a fault brings none", elder.cloth(0, 1), 18);
+        LaundrySky laws = new LaundrySky();
+        String[] each = {"not 5", "5", "2 + 2 * not 0", "3", "1 + 1", "0", "4"};
+        int[] by = {0, 5, 4, 3, 2, 0, 4};
+        for (int i = 0; i < each.length; i++) {
+            Due.type(laws, "line a pegs 9;cloth c sheet wet 20;dries " + each[i] + ";");
+            laws.street();
+            laws.hang(0, 0, 1);
+            laws.hour();
+            EDGES.due("nothing of an elder law is left in " + each[i], 20 - laws.cloth(0, 1), by[i]);
+        }
     }
 
     private static void lessWet() {

@@ -168,6 +168,9 @@ public final class PromiseEdgesTest {
         EDGES.due("its pegs", sky.cloth(1, 3), 3);
         EDGES.due("it does not hang", sky.cloth(3, 2), -1);
         EDGES.due("it does not", sky.cloth(3, 3), 0);
+        sky.take(1);
+        EDGES.due("it does not hang any more", sky.cloth(1, 2), -1);
+        EDGES.due("it does not any more", sky.cloth(1, 3), 0);
         sky.hour();
         sky.hour();
         EDGES.due("dry", sky.cloth(0, 1), 0);
@@ -721,5 +724,9 @@ public final class PromiseEdgesTest {
         EDGES.due("all hang", full.count(4), 63);
         EDGES.due("pegs", full.count(6), 27);
         EDGES.due("all are wanted", full.count(7), 15);
+        EDGES.due("the last cloth on the first line", full.line(0, 2), 33);
+        EDGES.due("the fifth on the last", full.line(4, 2), 16);
+        EDGES.due("all is as wanted", full.wish(-1), 0);
+        EDGES.due("in all places alike", full.same(), 6);
     }
 }

@@ -407,6 +407,19 @@ public final class StreetEdgesTest {
             EDGES.due("mark " + mark, sky.mark(mark, true), false);
         }
         EDGES.stays("as on a new object", sky, fresh);
+        // an elder one with more of all, and one with a fault, leave nothing behind
+        Due.type(sky, FIVE + "crosses a b;crosses b c;crosses c d;crosses d e;crosses e a;place p under a b c d e;"
+            + "place q under a;place r under b;place s under c;cloth m skirt wet 20;cloth n skirt wet 20;"
+            + "cloth o skirt wet 20;cloth t skirt wet 20;cloth u skirt wet 20;cloth v skirt wet 20;dries 9;");
+        EDGES.due("a greater street", sky.street(), 0);
+        for (int cloth = 0; cloth < 5; cloth++) {
+            sky.hang(cloth, cloth, 1);
+        }
+        Due.type(sky, FIVE + "crosses a b;crosses c a;dries 5;?");
+        EDGES.due("a fault", sky.street() > 0, true);
+        Due.type(sky, street);
+        EDGES.due("the first street again", sky.street(), 0);
+        EDGES.stays("as on a new object", sky, fresh);
     }
 
     private static void theMorning() {
