@@ -42,6 +42,7 @@ public final class RandomRunsTest {
         PlainSky plain = new PlainSky();
         if (run % 10 == 0) {
             texts(sky, plain);
+            noise(sky, plain);
             return;
         }
         type(sky, plain, streetText());
@@ -86,6 +87,27 @@ public final class RandomRunsTest {
             boolean asStreet = random.nextInt(3) > 0;
             due.due((asStreet ? "street of " : "morning of ") + text, asStreet ? sky.street() : sky.morning(),
                 asStreet ? plain.street() : plain.morning());
+            counts(sky, plain);
+        }
+    }
+
+    /** Any bytes, and any words in any order, up to a full tape and beyond it. */
+    private void noise(LaundrySky sky, PlainSky plain) {
+        for (int i = 0; i < 12; i++) {
+            for (int k = random.nextInt(random.nextInt(4) == 0 ? 60 : 4); k >= 0; k--) {
+                long a = random.nextLong();
+                long b = random.nextLong() & 0x7f7f7f7f7f7f7f7fL;
+                long c = random.nextLong();
+                due.due("feed", sky.feed(a, b, c), plain.feed(a, b, c));
+            }
+            due.due("street of noise", sky.street(), plain.street());
+            StringBuilder text = new StringBuilder();
+            for (int k = random.nextInt(i == 0 ? 300 : 12); k > 0; k--) {
+                text.append(WORDS[random.nextInt(WORDS.length)]).append(random.nextInt(4) > 0 ? " " : "");
+            }
+            type(sky, plain, text.toString());
+            boolean asStreet = random.nextBoolean();
+            due.due("words " + text, asStreet ? sky.street() : sky.morning(), asStreet ? plain.street() : plain.morning());
             counts(sky, plain);
         }
     }
